@@ -486,47 +486,67 @@ public final class RepeatNests {
 
     /** The repeats that may begin at a place, by rising blocks, those of one block by rising ends. */
     private static final class Repeats {
+        /** For each letter the places where it stands, as bits. */
+        private final int[] standing = new int[KINDS];
+        /** For each distance the places, as bits, whose letter is not that so many places behind them. */
+        private final int[] unlike = new int[MOST_LETTERS];
         private final int[] blocks = new int[MOST_REPEATS];
         private final int[] ends = new int[MOST_REPEATS];
-        private final int[] corrections = new int[MOST_REPEATS];
+        /** What the repeats cost without their blocks. */
+        private final int[] prices = new int[MOST_REPEATS];
+        private int rowSize = 0;
+        private int repeatPrice = 0;
+        private int correctionPrice = 0;
+        private int mostCorrections = 0;
         private int number = 0;
 
-        void find(State state, int from) {
+        /** Takes the row in which repeats are to be found. */
+        void look(State state) {
+            rowSize = state.size;
+            repeatPrice = state.setting(REPEAT_PRICE);
+            correctionPrice = state.setting(CORRECTION_PRICE);
+            mostCorrections = state.setting(MOST_CORRECTIONS);
+            for (int kind = 0; kind < KINDS; kind++) {
+                standing[kind] = 0;
+            }
+            for (int place = 0; place < rowSize; place++) {
+                int kind = state.letter(place);
+                if (isKind(kind)) {
+                    standing[kind] |= 1 << place;
+                }
+            }
+            for (int distance = 1; distance < MOST_LETTERS; distance++) {
+                int like = 0;
+                for (int kind = 0; kind < KINDS; kind++) {
+                    like |= standing[kind] & (standing[kind] >> distance);
+                }
+                unlike[distance] = ~like;
+            }
+        }
+
+        void find(int from) {
             number = 0;
-            for (int block = 1; from + 2 * block <= state.size; block++) {
-                findOf(state, from, block);
+            for (int block = 1; from + 2 * block <= rowSize; block++) {
+                findOf(from, block);
             }
         }
 
         /** What a block describes stands first, so the corrections are where later copies differ from it. */
-        private void findOf(State state, int from, int block) {
+        private void findOf(int from, int block) {
+            int first = ((1 << block) - 1) << from;
             int wrong = 0;
-            for (int copy = from + block; copy + block <= state.size; copy += Math.max(block, 1)) {
-                for (int step = 0; step < block; step++) {
-                    wrong += state.letter(from + step) == state.letter(copy + step) ? 0 : 1;
-                }
-                if (wrong > state.setting(MOST_CORRECTIONS) || number < 0 || number >= MOST_REPEATS) {
+            int distance = block;
+            while (distance > 0 && distance < MOST_LETTERS && from + distance + block <= rowSize) {
+                wrong += Integer.bitCount(unlike[distance] & first);
+                if (wrong > mostCorrections || number < 0 || number >= MOST_REPEATS) {
                     return;
                 }
                 blocks[number] = block;
-                ends[number] = copy + block;
-                corrections[number] = wrong;
+                ends[number] = from + distance + block;
+                prices[number] = repeatPrice + wrong * correctionPrice;
                 number++;
+                distance += block;
             }
-        }
-
-        int block(int index) {
-            return index >= 0 && index < MOST_REPEATS ? blocks[index] : 1;
-        }
-
-        int end(int index) {
-            return index >= 0 && index < MOST_REPEATS ? ends[index] : 0;
-        }
-
-        /** What a repeat costs without its block. */
-        int price(State state, int index) {
-            int many = index >= 0 && index < MOST_REPEATS ? corrections[index] : 0;
-            return state.setting(REPEAT_PRICE) + many * state.setting(CORRECTION_PRICE);
         }
     }
 
@@ -547,9 +567,10 @@ public final class RepeatNests {
          * With wholeOnly, of the parts that are no blocks only those up to the end of the row are needed.
          */
         final void fill(State state, int highest, boolean wholeOnly) {
+            repeats.look(state);
             int greatest = Math.min(state.setting(MOST_DEPTH), DEPTHS - 1);
             for (int from = highest; from >= 0; from--) {
-                repeats.find(state, from);
+                repeats.find(from);
                 for (int depth = 0; depth <= greatest; depth++) {
                     // A block is at most half as long as what its repeat describes.
                     int longest = state.size >> (greatest - depth);
@@ -579,30 +600,33 @@ public final class RepeatNests {
             return index >= 0 && index < table.length ? table[index] : 0;
         }
 
-        /** What a repeat costs in a description of a depth that is 1 or more. */
-        int repeatPrice(State state, Repeats some, int index, int depth, int from) {
-            return some.price(state, index) + price(depth - 1, from, from + some.block(index));
-        }
-
         /** Finds for each end the cheapest item. */
         void findItems(State state, int depth, int from, int last) {
-            for (int end = 0; end < PLACES; end++) {
+            for (int end = from + 1; end >= 0 && end <= last && end < PLACES; end++) {
                 items[end] = end == from + 1 ? state.setting(LETTER_PRICE) : NO_PRICE;
             }
-            for (int index = 0; depth > 0 && index < repeats.number; index++) {
-                int end = repeats.end(index);
-                if (end >= 0 && end <= last && end < PLACES) {
-                    items[end] = Math.min(items[end], repeatPrice(state, repeats, index, depth, from));
+            int noBlock = partIndex(depth - 1, from, from);
+            for (int index = 0; depth > 0 && index < repeats.number && index < MOST_REPEATS; index++) {
+                int end = repeats.ends[index];
+                int block = noBlock + repeats.blocks[index];
+                if (end >= 0 && end <= last && end < PLACES && block >= 0 && block < table.length) {
+                    int price = repeats.prices[index] + table[block];
+                    if (price < items[end]) {
+                        items[end] = price;
+                    }
                 }
             }
         }
 
         void fillPart(int depth, int from, int to) {
             int least = NO_PRICE;
-            for (int end = from + 1; end <= to && end < PLACES; end++) {
-                if (items[end] < least) {
-                    least = Math.min(least, items[end] + price(depth, end, to));
+            int rest = partIndex(depth, from + 1, to);
+            for (int end = from + 1; end <= to && end < PLACES && rest >= 0 && rest < table.length; end++) {
+                int price = items[end] + table[rest];
+                if (price < least) {
+                    least = price;
                 }
+                rest += PLACES;
             }
             int index = partIndex(depth, from, to);
             if (index >= 0 && index < table.length) {
@@ -636,21 +660,25 @@ public final class RepeatNests {
 
         /** Counts for each end the items. */
         void findItems(State state, int depth, int from, int last) {
-            for (int end = 0; end < PLACES; end++) {
+            for (int end = from + 1; end >= 0 && end <= last && end < PLACES; end++) {
                 items[end] = end == from + 1 ? 1 : 0;
             }
-            for (int index = 0; depth > 0 && index < repeats.number; index++) {
-                int end = repeats.end(index);
-                if (end >= 0 && end <= last && end < PLACES) {
-                    items[end] += number(depth - 1, from, from + repeats.block(index));
+            int noBlock = partIndex(depth - 1, from, from);
+            for (int index = 0; depth > 0 && index < repeats.number && index < MOST_REPEATS; index++) {
+                int end = repeats.ends[index];
+                int block = noBlock + repeats.blocks[index];
+                if (end >= 0 && end <= last && end < PLACES && block >= 0 && block < table.length) {
+                    items[end] += table[block];
                 }
             }
         }
 
         void fillPart(int depth, int from, int to) {
             long sum = 0;
-            for (int end = from + 1; end <= to && end < PLACES; end++) {
-                sum += items[end] * number(depth, end, to);
+            int rest = partIndex(depth, from + 1, to);
+            for (int end = from + 1; end <= to && end < PLACES && rest >= 0 && rest < table.length; end++) {
+                sum += items[end] * table[rest];
+                rest += PLACES;
             }
             int index = partIndex(depth, from, to);
             if (index >= 0 && index < table.length) {
@@ -686,6 +714,7 @@ public final class RepeatNests {
             length = 0;
             repeatsTold = 0;
             correctionsTold = 0;
+            repeats.look(state);
             int depth = state.setting(MOST_DEPTH);
             choose(state, prices, depth, from, to);
             firstLetters = chosenEnd - from;
@@ -772,13 +801,14 @@ public final class RepeatNests {
                 return;
             }
             int due = prices.price(depth, from, to);
-            repeats.find(state, from);
-            for (int index = 0; index < repeats.number; index++) {
-                int end = repeats.end(index);
-                if (end > chosenEnd && end <= to
-                    && prices.repeatPrice(state, repeats, index, depth, from) + prices.price(depth, end, to) == due) {
+            repeats.find(from);
+            for (int index = 0; index < repeats.number && index < MOST_REPEATS; index++) {
+                int end = repeats.ends[index];
+                int block = repeats.blocks[index];
+                int item = repeats.prices[index] + prices.price(depth - 1, from, from + block);
+                if (end > chosenEnd && end <= to && item + prices.price(depth, end, to) == due) {
                     chosenEnd = end;
-                    chosenBlock = repeats.block(index);
+                    chosenBlock = block;
                 }
             }
         }
