@@ -52,15 +52,15 @@ public final class ArgumentsTest {
     }
 
     private static void check(String where, RepeatNests x, int call, int one, int other, int third) {
-        String before = seen(x);
+        String before = Due.seen(x);
         String name = where + ", call " + call + "(" + one + ", " + other + ", " + third + ")";
         try {
             long answer = answer(x, call, one, other, third);
             if (answer < 0) {
                 Due.holds(name + " answers an error of the document", answer >= Due.NONE && answer <= Due.INVALID);
-                Due.same(name + " changes nothing", seen(x), before);
+                Due.same(name + " changes nothing", Due.seen(x), before);
             } else if (call >= 5 && call <= 12 || call >= 15 && call <= 17 || call == 19) {
-                Due.same(name + " changes nothing, as it only asks", seen(x), before);
+                Due.same(name + " changes nothing, as it only asks", Due.seen(x), before);
             }
         } catch (RuntimeException thrown) {
             Due.same(name, thrown.toString(), "no exception");
@@ -91,13 +91,5 @@ public final class ArgumentsTest {
             case 19: return x.count(one);
             default: return x.undo();
         }
-    }
-
-    private static String seen(RepeatNests x) {
-        StringBuilder seen = new StringBuilder(Due.rowOf(x));
-        for (int what = 0; what < 25; what++) {
-            seen.append(' ').append(x.count(what));
-        }
-        return seen.append(' ').append(Due.faultOf(x)).append(' ').append(x.told(0)).toString();
     }
 }

@@ -101,6 +101,20 @@ final class Due {
         return letters.toString();
     }
 
+    /** What the typed text tells but for the row and its letters: told of 0 to 4. */
+    static String measuresOf(RepeatNests x) {
+        StringBuilder measures = new StringBuilder();
+        for (int what = 0; what <= 4; what++) {
+            measures.append(what == 0 ? "" : " ").append(x.told(what));
+        }
+        return measures.toString();
+    }
+
+    /** The place and the letter of the best change, and what the row costs then. */
+    static String bestChangeOf(RepeatNests x) {
+        return x.bestChange(0) + " " + x.bestChange(1) + " " + x.bestChange(2);
+    }
+
     /** The place and the reason of the fault of the typed text. */
     static String faultOf(RepeatNests x) {
         return x.fault(0) + " " + x.fault(1);
@@ -114,5 +128,14 @@ final class Due {
                 .append(':').append(x.runOf(index, 2));
         }
         return runs.toString();
+    }
+
+    /** All that can be asked of the state, told as one string. */
+    static String seen(RepeatNests x) {
+        StringBuilder seen = new StringBuilder(rowOf(x));
+        for (int what = 0; what < 25; what++) {
+            seen.append(' ').append(x.count(what));
+        }
+        return seen.append(' ').append(faultOf(x)).append(' ').append(x.told(0)).append(' ').append(toldOf(x)).toString();
     }
 }

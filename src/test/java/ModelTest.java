@@ -10,6 +10,7 @@ public final class ModelTest {
 
     public static void main(String[] args) {
         shortRows();
+        longerRows(new Random(9));
         for (int seed = 0; seed < 150; seed++) {
             run(new Random(seed), seed, 400);
         }
@@ -37,6 +38,26 @@ public final class ModelTest {
                 shortRow(letters, setting);
             }
         }
+    }
+
+    /** Rows of 6 to 10 letters, mostly of a word again and again, by random settings: each description is listed. */
+    private static void longerRows(Random random) {
+        for (int many = 0; many < 1000; many++) {
+            int[] settings = {1 + random.nextInt(3), random.nextInt(4), random.nextInt(4), random.nextInt(7), random.nextInt(5)};
+            shortRow(wordy(random, 6 + random.nextInt(5), 4), settings);
+        }
+    }
+
+    private static String wordy(Random random, int length, int longestWord) {
+        String word = "";
+        for (int many = 1 + random.nextInt(longestWord); many > 0; many--) {
+            word += (char) ('a' + random.nextInt(3));
+        }
+        StringBuilder letters = new StringBuilder();
+        while (letters.length() < length) {
+            letters.append(random.nextInt(6) == 0 ? "" + (char) ('a' + random.nextInt(4)) : word);
+        }
+        return letters.substring(0, length);
     }
 
     private static void shortRow(String letters, int[] settings) {
@@ -202,16 +223,9 @@ public final class ModelTest {
     /** Rows of 24 letters by random settings: the whole text, every measure, and a text that is read again. */
     private static void fullRows(Random random) {
         for (int many = 0; many < 120; many++) {
-            StringBuilder letters = new StringBuilder();
-            String word = "";
-            for (int length = 1 + random.nextInt(6); length > 0; length--) {
-                word += (char) ('a' + random.nextInt(3));
-            }
-            while (letters.length() < 24) {
-                letters.append(random.nextInt(6) == 0 ? "" + (char) ('a' + random.nextInt(4)) : word);
-            }
+            String letters = wordy(random, 24, 6);
             int[] settings = {1 + random.nextInt(4), random.nextInt(4), random.nextInt(4), random.nextInt(7), random.nextInt(5)};
-            fullRow(letters.substring(0, 24), settings);
+            fullRow(letters, settings);
         }
     }
 

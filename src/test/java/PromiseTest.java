@@ -338,7 +338,7 @@ public final class PromiseTest {
     }
 
     private static void bestChangeIs(RepeatNests x, String due) {
-        Due.same("bestChange of " + Due.rowOf(x), x.bestChange(0) + " " + x.bestChange(1) + " " + x.bestChange(2), due);
+        Due.same("bestChange of " + Due.rowOf(x), Due.bestChangeOf(x), due);
     }
 
     /** Promise 16. */
@@ -491,11 +491,7 @@ public final class PromiseTest {
 
     private static void toldIs(String text, String measures, String letters) {
         RepeatNests x = Due.typed(text);
-        StringBuilder got = new StringBuilder();
-        for (int what = 0; what <= 4; what++) {
-            got.append(what == 0 ? "" : " ").append(x.told(what));
-        }
-        Due.same("told of " + text, got.toString(), measures);
+        Due.same("told of " + text, Due.measuresOf(x), measures);
         Due.same("letters told of " + text, Due.toldOf(x), letters);
     }
 
