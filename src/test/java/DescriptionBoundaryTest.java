@@ -117,6 +117,9 @@ public final class DescriptionBoundaryTest {
         Due.is("descriptions of aa: aa, 2(a)", number("aa", 2, 3, 3, 6, 4), 2);
         textIs("aa", by(9, 0, 0, 0, 1), "2(a)", 9);
         textIs("a", by(9, 0, 0, 0, 1), "a", 9);
+        // Not 2(a)2(1(ba)): the times of a repeat are never 1, also behind another repeat
+        textIs("aababa", by(2, 1, 3, 1, 2), "2(a)2(ba)", 8);
+        textIs("bbababb", by(2, 1, 3, 1, 3), "2(b)2(ab)b", 10);
     }
 
     /** "a number of times": as many as a row has letters. */
