@@ -26,6 +26,8 @@ public final class RepeatNests {
     /** The depths 0 to 4, and the places 0 to 24 between which parts stand. */
     private static final int DEPTHS = 5;
     private static final int PLACES = MOST_LETTERS + 1;
+    /** How many pairs of places there are, the second one not ahead of the first one. */
+    private static final int PARTS = PLACES * (PLACES + 1) / 2;
 
     /** From one place in 24 letters, 60 repeats begin: a block and a number of times each. */
     private static final int MOST_REPEATS = 60;
@@ -303,9 +305,9 @@ public final class RepeatNests {
         return letter >= 0 && letter < KINDS;
     }
 
-    /** Where tables hold a part at a depth. */
+    /** Where tables hold a part at a depth: parts of one end stand side by side, as they are summed up so. */
     private static int partIndex(int depth, int from, int to) {
-        return (depth * PLACES + from) * PLACES + to;
+        return depth * PARTS + to * (to + 1) / 2 + from;
     }
 
     /** The row and the settings: what a change records. */
@@ -409,8 +411,9 @@ public final class RepeatNests {
             if (size >= MOST_STATES) {
                 dropOldest();
             }
-            if (size >= 0 && size < MOST_STATES) {
-                states[size].copyFrom(now);
+            State kept = state(size);
+            if (kept != null) {
+                kept.copyFrom(now);
                 size++;
             }
         }
@@ -426,10 +429,15 @@ public final class RepeatNests {
         }
 
         void giveBack(State now) {
-            if (size > 0 && size <= MOST_STATES) {
+            State latest = state(size - 1);
+            if (latest != null) {
+                now.copyFrom(latest);
                 size--;
-                now.copyFrom(states[size]);
             }
+        }
+
+        private State state(int index) {
+            return index >= 0 && index < MOST_STATES ? states[index] : null;
         }
     }
 
@@ -535,17 +543,19 @@ public final class RepeatNests {
         private void findOf(int from, int block) {
             int first = ((1 << block) - 1) << from;
             int wrong = 0;
-            int distance = block;
-            while (distance > 0 && distance < MOST_LETTERS && from + distance + block <= rowSize) {
+            for (int times = 2; times <= MOST_LETTERS && from + times * block <= rowSize; times++) {
+                int distance = (times - 1) * block;
+                if (distance < 1 || distance >= MOST_LETTERS || number < 0 || number >= MOST_REPEATS) {
+                    return;
+                }
                 wrong += Integer.bitCount(unlike[distance] & first);
-                if (wrong > mostCorrections || number < 0 || number >= MOST_REPEATS) {
+                if (wrong > mostCorrections) {
                     return;
                 }
                 blocks[number] = block;
-                ends[number] = from + distance + block;
+                ends[number] = from + times * block;
                 prices[number] = repeatPrice + wrong * correctionPrice;
                 number++;
-                distance += block;
             }
         }
     }
@@ -592,7 +602,7 @@ public final class RepeatNests {
 
     /** What the parts cost, described most cheaply. */
     private static final class Prices extends Parts {
-        private final int[] table = new int[DEPTHS * PLACES * PLACES];
+        private final int[] table = new int[DEPTHS * PARTS];
         private final int[] items = new int[PLACES];
 
         int price(int depth, int from, int to) {
@@ -605,10 +615,9 @@ public final class RepeatNests {
             for (int end = from + 1; end >= 0 && end <= last && end < PLACES; end++) {
                 items[end] = end == from + 1 ? state.setting(LETTER_PRICE) : NO_PRICE;
             }
-            int noBlock = partIndex(depth - 1, from, from);
             for (int index = 0; depth > 0 && index < repeats.number && index < MOST_REPEATS; index++) {
                 int end = repeats.ends[index];
-                int block = noBlock + repeats.blocks[index];
+                int block = partIndex(depth - 1, from, from + repeats.blocks[index]);
                 if (end >= 0 && end <= last && end < PLACES && block >= 0 && block < table.length) {
                     int price = repeats.prices[index] + table[block];
                     if (price < items[end]) {
@@ -621,12 +630,12 @@ public final class RepeatNests {
         void fillPart(int depth, int from, int to) {
             int least = NO_PRICE;
             int rest = partIndex(depth, from + 1, to);
-            for (int end = from + 1; end <= to && end < PLACES && rest >= 0 && rest < table.length; end++) {
+            for (int end = from + 1; end >= 0 && end <= to && end < PLACES && rest >= 0 && rest < table.length; end++) {
                 int price = items[end] + table[rest];
                 if (price < least) {
                     least = price;
                 }
-                rest += PLACES;
+                rest++;
             }
             int index = partIndex(depth, from, to);
             if (index >= 0 && index < table.length) {
@@ -642,13 +651,13 @@ public final class RepeatNests {
 
     /** How many descriptions the parts have. */
     private static final class Numbers extends Parts {
-        private final long[] table = new long[DEPTHS * PLACES * PLACES];
+        private final long[] table = new long[DEPTHS * PARTS];
         private final long[] items = new long[PLACES];
 
         Numbers() {
             for (int depth = 0; depth < DEPTHS; depth++) {
                 for (int place = 0; place < PLACES; place++) {
-                    table[partIndex(depth, place, place)] = 1;
+                    put(partIndex(depth, place, place), 1);
                 }
             }
         }
@@ -658,15 +667,20 @@ public final class RepeatNests {
             return index >= 0 && index < table.length ? table[index] : 0;
         }
 
+        private void put(int index, long number) {
+            if (index >= 0 && index < table.length) {
+                table[index] = number;
+            }
+        }
+
         /** Counts for each end the items. */
         void findItems(State state, int depth, int from, int last) {
             for (int end = from + 1; end >= 0 && end <= last && end < PLACES; end++) {
                 items[end] = end == from + 1 ? 1 : 0;
             }
-            int noBlock = partIndex(depth - 1, from, from);
             for (int index = 0; depth > 0 && index < repeats.number && index < MOST_REPEATS; index++) {
                 int end = repeats.ends[index];
-                int block = noBlock + repeats.blocks[index];
+                int block = partIndex(depth - 1, from, from + repeats.blocks[index]);
                 if (end >= 0 && end <= last && end < PLACES && block >= 0 && block < table.length) {
                     items[end] += table[block];
                 }
@@ -676,14 +690,11 @@ public final class RepeatNests {
         void fillPart(int depth, int from, int to) {
             long sum = 0;
             int rest = partIndex(depth, from + 1, to);
-            for (int end = from + 1; end <= to && end < PLACES && rest >= 0 && rest < table.length; end++) {
+            for (int end = from + 1; end >= 0 && end <= to && end < PLACES && rest >= 0 && rest < table.length; end++) {
                 sum += items[end] * table[rest];
-                rest += PLACES;
+                rest++;
             }
-            int index = partIndex(depth, from, to);
-            if (index >= 0 && index < table.length) {
-                table[index] = sum;
-            }
+            put(partIndex(depth, from, to), sum);
         }
     }
 

@@ -14,8 +14,8 @@ public final class RoomTest {
         long before = bytes();
         RepeatNests x = new RepeatNests();
         long made = bytes() - before;
-        // Some 15,000 elements of up to 8 bytes: hundreds of objects fit into 7.3 million.
-        Due.holds("a new object takes " + made + " bytes", x.count(0) == 0 && made < 120000);
+        // Some 7,000 elements of up to 8 bytes: a thousand new objects fit into 7.3 million.
+        Due.holds("a new object takes " + made + " bytes", x.count(0) == 0 && made < 60000);
         long calls = dearCalls();
         Due.holds(CALLS + " dear calls make " + calls + " bytes", calls < 4096);
         Due.end();
